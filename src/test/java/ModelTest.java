@@ -25,7 +25,7 @@ final class ModelTest {
         told.append("run ").append(run).append(":");
         program = new Latticehear();
         model = new Model();
-        int[] scales = {2, 5, 30, 300, 3000, 30000};
+        int[] scales = {0, 1, 2, 5, 30, 300, 3000, 30000};
         scale = scales[run % scales.length];
         for (int i = 0; i < 2 + below(5); i++) {
             call(10, frames, words);
